@@ -12,7 +12,7 @@ import java.util.regex.Pattern;
 
 /**
  * What of ../shared/LANGUAGE.md can be looked at from outside: the face, words that the language leaves out,
- * and that no call makes an object. The source's path is the first argument.
+ * and that no call makes an object. The test runs in the root of the checkout, or takes the source's path.
  */
 public final class RulesTest {
     private static final String FACE = """
@@ -46,18 +46,15 @@ public final class RulesTest {
         constant NONE
         constructor 0
         """;
+    private static final String SOURCE = "src/main/java/TrophyPlates.java";
     private static final String LEFT_OUT =
         "throw|throws|try|catch|synchronized|assert|import|package|volatile|native|protected|->|::|System|double|float";
 
     private static int wrong = 0;
 
     public static void main(String[] args) throws Exception {
-        if (args.length != 1) {
-            System.out.println("give the path of TrophyPlates.java");
-            System.exit(1);
-        }
         checkFace();
-        checkWords(Files.readString(Path.of(args[0])));
+        checkWords(Files.readString(Path.of(args.length == 0 ? SOURCE : args[0])));
         checkRoom();
         System.out.println(wrong == 0 ? "the rules are kept" : wrong + " rules are broken");
         if (wrong != 0) {
