@@ -737,7 +737,7 @@ public final class TrophyPlates {
 
         void fixPlate(Plate plate, int shield, int year) {
             plate.fixOn(shield, year);
-            if (platesOn(shield) > places[shield]) {
+            if (hasShield(shield) && platesOn(shield) > places[shield]) {
                 int earliest = plateOfYear(shield, earliestYear(shield));
                 if (hasPlate(earliest)) {
                     plates[earliest].putIntoDrawer();

@@ -22,6 +22,7 @@ final class Sentence {
     private static int broken = 0;
     private static int checks = 0;
     private static boolean holds = true;
+    private static boolean named = false;
 
     private Sentence() {
     }
@@ -39,6 +40,9 @@ final class Sentence {
     static void sentence(String sentence, Runnable test) {
         words = sentence;
         sentences++;
+        if (named) {
+            System.out.println(promise + ": \"" + words + "\"");
+        }
         checks = 0;
         holds = true;
         try {
@@ -54,8 +58,12 @@ final class Sentence {
         }
     }
 
-    /** A program that does not come to an end is wrong as well, so the wait for it has an end. */
-    static void begin() {
+    /**
+     * With an argument each sentence is named before it is tested. A program that does not come to an end is
+     * wrong as well, so the wait for it has an end.
+     */
+    static void begin(String[] args) {
+        named = args.length > 0;
         Thread watch = new Thread(() -> {
             try {
                 Thread.sleep(PATIENCE);
@@ -145,7 +153,8 @@ final class Sentence {
      * in the letters of the text, and as the work goes on. Each comparison takes new shops, so that no object
      * comes to its 512th call.
      */
-    static void changesNothing(String call, Supplier<TrophyPlates> made, ToIntFunction<TrophyPlates> tried, int answer) {
+    static void changesNothing(String call, Supplier<TrophyPlates> made, ToIntFunction<TrophyPlates> tried,
+            int answer) {
         due(call, tried.applyAsInt(made.get()), answer);
         for (int steps = 0; steps <= MOST_STATES; steps++) {
             Map<String, Integer> touched = viewAfterUndo(made, tried, steps);

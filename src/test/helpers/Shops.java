@@ -116,6 +116,25 @@ final class Shops {
         return x;
     }
 
+    /** Orders for the years 1 to 3; there is no plate for the first, and the second is at work with 3 minutes left. */
+    static TrophyPlates secondAtWork() {
+        TrophyPlates x = withPlates(10);
+        give(x, "mmm", 0, 1, 1, 1, 0);
+        give(x, "ab", 0, 2, 1, 1, 0);
+        give(x, "c", 0, 3, 1, 1, 0);
+        x.work(1);
+        return x;
+    }
+
+    /** Two orders that differ in all they have, and plates for both; none has begun. */
+    static TrophyPlates waiting() {
+        TrophyPlates x = withPlates(200, 200);
+        x.addShield(3);
+        give(x, "ann", 1, 20, 3, 2, 1);
+        give(x, "bo", 0, 30, 4, 5, 0);
+        return x;
+    }
+
     /**
      * A plate in each state (0 on shield 0 for the year 10, 1 at work, 2 and 4 in the drawer, 3 spoiled), a rush,
      * the order at work and a third one in the row, a text of two letters and as many states as there can be.

@@ -5,7 +5,7 @@ public final class ForecastEdges {
     private static final int NONE = Sentence.NONE;
 
     public static void main(String[] args) {
-        Sentence.begin();
+        Sentence.begin(args);
         lengthOf();
         plateFound();
         plateFoundAnswers();
@@ -98,7 +98,7 @@ public final class ForecastEdges {
         });
         sentence("depth: 1 to 5: 0, 6 and the ends of int are refused with INVALID_ARGUMENT", () ->
             Sentence.outside("plateFound(1, depth, 0)", 1, 5, Shops::busy, (x, depth) -> x.plateFound(1, depth, 0)));
-        sentence("what: 0 for the plate, 1 for the side, 2 for 1 if the side has to be ground: the least and most", () -> {
+        sentence("what: 0 for the plate, 1 for the side, 2 for the grinding: each of them", () -> {
             TrophyPlates x = withText(Shops.withPlates(10, 20), "mmm");
             due("what 0", x.plateFound(1, 1, 0), 1);
             due("what 1", x.plateFound(1, 1, 1), 0);
@@ -217,6 +217,7 @@ public final class ForecastEdges {
             Sentence.changesNothing("doneIn(1)", Shops::busy, x -> x.doneIn(1), 7);
             Sentence.changesNothing("doneIn(1)", () -> Shops.withOrders(3), x -> x.doneIn(1), NONE);
             Sentence.changesNothing("doneIn(9)", Shops::full, x -> x.doneIn(9), 19);
+            Sentence.changesNothing("doneIn(1)", Shops::waiting, x -> x.doneIn(1), 33);
         });
     }
 
@@ -267,6 +268,23 @@ public final class ForecastEdges {
             due("doneIn(1) on the first that comes back", x.doneIn(1), 4);
             due("doneIn(2) on the second", x.doneIn(2), 6);
             due("work(6)", x.work(6), 3);
+        });
+        sentence("plates that come back from full shields: of the shield of the order alone", () -> {
+            TrophyPlates x = Shops.onShield(2, 2);
+            x.addShield(2);
+            x.cut(10, 30);
+            Shops.giveSmall(x, 1, 3);
+            Shops.giveSmall(x, 1, 4);
+            due("doneIn(0) on the shield with places left", x.doneIn(0), 2);
+            due("doneIn(1)", x.doneIn(1), NONE);
+            x.cut(10, 30);
+            Shops.giveSmall(x, 1, 5);
+            Shops.giveSmall(x, 0, 6);
+            due("doneIn(1) fills it", x.doneIn(1), 4);
+            due("doneIn(2)", x.doneIn(2), NONE);
+            x.cut(10, 30);
+            due("doneIn(2) sends the year 3 back", x.doneIn(2), 6);
+            due("doneIn(3) takes it", x.doneIn(3), 8);
         });
         sentence("plates that come back from full shields: not if there is a place left", () -> {
             TrophyPlates x = Shops.onShield(3, 2);
@@ -323,6 +341,7 @@ public final class ForecastEdges {
             Sentence.changesNothing("moved(1)", Shops::busy, x -> x.moved(1), 100000);
             Sentence.changesNothing("moved(2)", Shops::busy, x -> x.moved(2), 100000);
             Sentence.changesNothing("moved(9)", Shops::full, x -> x.moved(9), 100016);
+            Sentence.changesNothing("moved(1)", Shops::waiting, x -> x.moved(1), 100000);
             Sentence.changesNothing("moved(1)", () -> Shops.withOrders(2), x -> x.moved(1), NONE);
         });
     }
@@ -465,7 +484,8 @@ public final class ForecastEdges {
             Sentence.outside("largestSize(plate)", 0, 19, Shops::full, TrophyPlates::largestSize);
         });
         sentence("INVALID_ARGUMENT if there is no such plate: none has been cut", () ->
-            Sentence.refused("largestSize(0)", () -> withText(new TrophyPlates(), "a"), x -> x.largestSize(0), INVALID));
+            Sentence.refused("largestSize(0)", () -> withText(new TrophyPlates(), "a"), x -> x.largestSize(0),
+                INVALID));
         sentence("ILLEGAL_STATE if the text is empty", () ->
             Sentence.refused("largestSize(0)", () -> Shops.withPlates(200), x -> x.largestSize(0), ILLEGAL));
         sentence("INVALID_ARGUMENT ahead of ILLEGAL_STATE", () -> {

@@ -4,7 +4,7 @@ public final class LookingEdges {
     private static final int NONE = Sentence.NONE;
 
     public static void main(String[] args) {
-        Sentence.begin();
+        Sentence.begin(args);
         count();
         countOfPlates();
         countOfOrders();

@@ -6,7 +6,7 @@ public final class OrdersEdges {
     private static final int NONE = Sentence.NONE;
 
     public static void main(String[] args) {
-        Sentence.begin();
+        Sentence.begin(args);
         append();
         clearText();
         orderArguments();
@@ -264,6 +264,12 @@ public final class OrdersEdges {
             due("not of another one", Shops.give(x, "a", 0, 10, 1, 1, 0), 3);
             Sentence.counts(x, 8, 2, 5, 0);
         });
+        sentence("the order at work stays at work also if a rush is given: when it is not the first in the row", () -> {
+            TrophyPlates x = Shops.secondAtWork();
+            due("a rush", Shops.give(x, "a", 0, 8, 1, 1, 1), 0);
+            Sentence.rowIs(x, 8, 1, 2, 3);
+            Sentence.counts(x, 8, 2, 3, 0);
+        });
         sentence("a rush behind the rush at work leaves it its number", () -> {
             TrophyPlates x = Shops.withPlates(20);
             Shops.give(x, "ab", 0, 1, 1, 1, 1);
@@ -444,6 +450,15 @@ public final class OrdersEdges {
             due("hurry(1)", x.hurry(1), 0);
             Sentence.counts(x, 8, 1, 5, 0);
         });
+        sentence("the order at work is the same one when another is hurried: behind it and ahead of it", () -> {
+            TrophyPlates x = Shops.secondAtWork();
+            due("the one behind it", x.hurry(2), 0);
+            Sentence.rowIs(x, 3, 1, 2);
+            Sentence.counts(x, 8, 2, 3, 0);
+            due("the one ahead of it", x.hurry(1), 1);
+            Sentence.rowIs(x, 3, 1, 2);
+            Sentence.counts(x, 8, 2, 3, 0);
+        });
         sentence("the order at work goes on when it is hurried itself", () -> {
             TrophyPlates x = Shops.atWork();
             Shops.giveSmall(x, 0, 8);
@@ -500,13 +515,16 @@ public final class OrdersEdges {
             due("count(11)", x.count(11), 0);
             due("plateFor(0, 7)", x.plateFor(0, 7), NONE);
         });
-        sentence("this is an action: it is recorded, and undone with the name", () -> {
+        sentence("this is an action: it is recorded, and undone with the names", () -> {
             TrophyPlates x = Shops.withPlates();
             Shops.give(x, "ann", 0, 1, 1, 1, 0);
+            Shops.give(x, "bo", 0, 2, 1, 1, 0);
             x.cancel(0);
-            due("count(14)", x.count(14), 3);
-            due("undo()", x.undo(), 2);
+            due("count(14)", x.count(14), 4);
+            due("undo()", x.undo(), 3);
+            Sentence.rowIs(x, 1, 2);
             Sentence.nameIs(x, 0, "ann");
+            Sentence.nameIs(x, 1, "bo");
         });
     }
 

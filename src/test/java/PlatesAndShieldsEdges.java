@@ -6,7 +6,7 @@ public final class PlatesAndShieldsEdges {
     private static final int NONE = Sentence.NONE;
 
     public static void main(String[] args) {
-        Sentence.begin();
+        Sentence.begin(args);
         newObject();
         cut();
         cutOfTheTerms();

@@ -5,7 +5,7 @@ public final class WorkEdges {
     private static final int NONE = Sentence.NONE;
 
     public static void main(String[] args) {
-        Sentence.begin();
+        Sentence.begin(args);
         work();
         workByMinutes();
         theNextOrder();
@@ -807,6 +807,24 @@ public final class WorkEdges {
             Sentence.shieldIs(x, 0, 2, 1, 10, 10, 0);
             Sentence.rowIs(x, 7, 20, 5);
             Sentence.nameIs(x, 1, "bob");
+        });
+        sentence("a state is everything: of each order all that it has, wherever it stands", () -> {
+            TrophyPlates x = Shops.waiting();
+            x.cancel(0);
+            Shops.give(x, "cyril", 1, 40, 1, 1, 0);
+            due("undo()", x.undo(), 4);
+            due("undo()", x.undo(), 3);
+            int[][] wanted = {{1, 20, 3, 2, 1, 3, 42, 15}, {0, 30, 4, 5, 0, 2, 36, 18}};
+            for (int order = 0; order < 2; order++) {
+                for (int what = 0; what < 8; what++) {
+                    due("orderOf(" + order + ", " + what + ")", x.orderOf(order, what), wanted[order][what]);
+                }
+            }
+            Sentence.nameIs(x, 0, "ann");
+            Sentence.nameIs(x, 1, "bo");
+            due("work(600)", x.work(600), 2);
+            due("plateFor(1, 20)", x.plateFor(1, 20), 0);
+            due("plateFor(0, 30)", x.plateFor(0, 30), 1);
         });
         sentence("a state is everything: of each action the number that it counts", () -> {
             TrophyPlates x = Shops.engraved(30, 1, 1);
