@@ -2,7 +2,9 @@ import java.util.ArrayList;
 import java.util.List;
 import java.util.Map;
 import java.util.Random;
+import java.util.Set;
 import java.util.TreeMap;
+import java.util.TreeSet;
 
 /**
  * Seeded runs of 512 calls on TrophyPlates and on ReferenceShop side by side; every answer must be the same.
@@ -17,16 +19,11 @@ public final class ReferenceRuns {
         "slip", "undo", "count", "plate", "shield", "plateFor", "orderOf", "letter", "lengthOf", "plateFound",
         "doneIn", "moved", "largestSize"};
     private static final String[] MUST_BE_MET = {
-        "cut -1", "cut -3", "cut ok", "spoil -1", "spoil -2", "spoil ok", "grind -1", "grind -2", "grind ok",
-        "addShield -1", "addShield -3", "addShield ok", "takeOff -1", "takeOff -2", "takeOff ok", "append -1",
-        "append -3", "append ok", "clearText ok", "order -1", "order -2", "order -3", "order ok", "hurry -1",
-        "hurry -2", "hurry ok", "cancel -1", "cancel ok", "work -1", "work ok", "slip -2", "slip 1", "slip 2",
-        "slip 3", "undo -2", "undo ok", "count -1", "count -9", "count ok", "plate -1", "plate -9", "plate ok",
-        "shield -1", "shield -9", "shield ok", "plateFor -1", "plateFor -9", "plateFor ok", "orderOf -1",
-        "orderOf ok", "letter -1", "letter -9", "letter ok", "lengthOf -1", "lengthOf ok", "plateFound -1",
-        "plateFound -2", "plateFound -9", "plateFound ok", "doneIn -1", "doneIn -9", "doneIn ok", "moved -1",
-        "moved -2", "moved -9", "moved below", "moved above", "largestSize -1", "largestSize -2", "largestSize -9",
-        "largestSize ok"};
+        "cut ok", "spoil ok", "grind ok", "addShield ok", "takeOff ok", "append ok", "clearText ok", "order ok",
+        "hurry ok", "cancel ok", "work ok", "slip 1", "slip 2", "slip 3", "undo ok", "count ok", "plate ok",
+        "shield ok", "plateFor ok", "orderOf ok", "letter ok", "lengthOf ok", "plateFound ok", "doneIn ok",
+        "moved ok", "moved below", "moved above", "largestSize ok"};
+    private static final int OFTEN_ENOUGH = 20;
 
     /** What is called often: a shop of all sorts, one with many orders waiting, one with few
      * plates used again, one with a full shield whose plates come back. */
@@ -64,11 +61,8 @@ public final class ReferenceRuns {
                 wrong++;
             }
         }
-        for (String kind : MUST_BE_MET) {
-            if (wrong == 0 && met.getOrDefault(kind, 0) < 20) {
-                System.out.println("too few answers of the kind " + kind + ": " + met.get(kind));
-                wrong++;
-            }
+        if (wrong == 0) {
+            wrong += kindsNotMet();
         }
         if (args.length > 0) {
             System.out.println(met);
@@ -77,6 +71,26 @@ public final class ReferenceRuns {
         if (wrong != 0) {
             System.exit(1);
         }
+    }
+
+    /** Each kind must have been met, each code below 0 by the calls that have it, and nothing else. */
+    private static int kindsNotMet() {
+        Set<String> kinds = new TreeSet<>(List.of(MUST_BE_MET));
+        Codes.ofCalls().forEach((call, codes) -> codes.forEach(code -> kinds.add(call + " " + code)));
+        int wrong = 0;
+        for (String kind : kinds) {
+            if (met.getOrDefault(kind, 0) < OFTEN_ENOUGH) {
+                System.out.println("too few answers of the kind " + kind + ": " + met.get(kind));
+                wrong++;
+            }
+        }
+        for (String kind : met.keySet()) {
+            if (!kinds.contains(kind)) {
+                System.out.println("answers of a kind that is not due: " + kind);
+                wrong++;
+            }
+        }
+        return wrong;
     }
 
     private boolean agrees(int seed) {

@@ -11,8 +11,8 @@ import java.util.regex.Matcher;
 import java.util.regex.Pattern;
 
 /**
- * What of ../shared/LANGUAGE.md can be looked at from outside: the face, words that the language leaves out,
- * and that no call makes an object. The test runs in the root of the checkout, or takes the source's path.
+ * What of ../shared/LANGUAGE.md can be looked at from outside: the face, the classes inside, words that the
+ * language leaves out, and that no call makes an object. The test runs in the root of the checkout, or takes the source's path.
  */
 public final class RulesTest {
     private static final String FACE = """
@@ -50,10 +50,15 @@ public final class RulesTest {
     private static final String LEFT_OUT =
         "throw|throws|try|catch|synchronized|assert|import|package|volatile|native|protected|->|::|System|double|float";
 
+    private static final int MOST_CLASSES = 12;
+    private static final int MOST_FIELDS = 20;
+    private static final int MOST_PARAMETERS = 7;
+
     private static int wrong = 0;
 
     public static void main(String[] args) throws Exception {
         checkFace();
+        checkClassesInside();
         checkWords(Files.readString(Path.of(args.length == 0 ? SOURCE : args[0])));
         checkRoom();
         System.out.println(wrong == 0 ? "the rules are kept" : wrong + " rules are broken");
@@ -100,6 +105,39 @@ public final class RulesTest {
         }
         if (!Modifier.isFinal(TrophyPlates.class.getModifiers())) {
             fail("the class is not final");
+        }
+    }
+
+    private static void checkClassesInside() {
+        Class<?>[] inside = TrophyPlates.class.getDeclaredClasses();
+        if (inside.length >= MOST_CLASSES) {
+            fail("too many classes: " + (inside.length + 1));
+        }
+        checkClass(TrophyPlates.class);
+        for (Class<?> each : inside) {
+            int modifiers = each.getModifiers();
+            if (!Modifier.isStatic(modifiers) || Modifier.isPublic(modifiers) || Modifier.isProtected(modifiers)) {
+                fail("a class inside that others see, or that is not static: " + each.getName());
+            }
+            if (each.getDeclaredClasses().length > 0) {
+                fail("a class inside a class inside: " + each.getName());
+            }
+            checkClass(each);
+        }
+    }
+
+    private static void checkClass(Class<?> checked) {
+        int fields = 0;
+        for (Field field : checked.getDeclaredFields()) {
+            fields += Modifier.isStatic(field.getModifiers()) ? 0 : 1;
+        }
+        if (fields > MOST_FIELDS) {
+            fail("too many fields: " + fields + " in " + checked.getName());
+        }
+        for (Method method : checked.getDeclaredMethods()) {
+            if (method.isSynthetic() || method.getParameterCount() > MOST_PARAMETERS) {
+                fail("a method that the rules leave out: " + method);
+            }
         }
     }
 
